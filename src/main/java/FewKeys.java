@@ -806,7 +806,7 @@ public final class FewKeys {
         private final Rows rows;
         private final int[] fewestTo = new int[MOST_NUMBERS];
         private final int[] metAt = new int[MOST_NUMBERS];
-        private final boolean[] wanted = new boolean[MOST_NUMBERS];
+        private final int[] wanted = new int[MOST_NUMBERS];
         private int missing = 0;
         private boolean known = false;
         private boolean moreKnown = false;
@@ -829,7 +829,7 @@ public final class FewKeys {
 
         void learn(Reckoner reckoner, int state) {
             if (!known) {
-                Arrays.fill(wanted, true);
+                Arrays.fill(wanted, 1);
                 missing = reckoner.numbers;
                 spread(reckoner, state);
                 rows.holds = Rows.WAYS;
@@ -892,9 +892,7 @@ public final class FewKeys {
             if (shown < MOST_NUMBERS && fewestTo[shown] == NONE) {
                 fewestTo[shown] = level;
                 metAt[shown] = rows.count - 1;
-                if (wanted[shown]) {
-                    missing--;
-                }
+                missing -= wanted[shown];
             }
         }
 
@@ -925,12 +923,12 @@ public final class FewKeys {
         }
 
         private int together(Reckoner reckoner, Present present) {
-            Arrays.fill(wanted, false);
+            Arrays.fill(wanted, 0);
             missing = 0;
             for (int i = 0; i < present.targetCount; i++) {
                 int v = at(present.targets, i);
-                if (v >= 0 && v < MOST_NUMBERS && !wanted[v]) {
-                    wanted[v] = true;
+                if (at(wanted, v) == 0) {
+                    put(wanted, v, 1);
                     missing++;
                 }
             }

@@ -479,10 +479,10 @@ public final class FewKeysAgainstPlain {
 
   private String blanks(int least) { return " ".repeat(least + (among(6) == 0 ? among(3) : 0)); }
 
-  private String goodText(int mostNumbers, int mostKeys) {
+  private String goodText(int leastNumbers, int mostNumbers, int mostKeys) {
     int[] dial = DIALS[among(DIALS.length)];
     int numbers = (int) Math.round(Math.pow(dial[0], dial[1]));
-    if (numbers > mostNumbers) return goodText(mostNumbers, mostKeys);
+    if (numbers < leastNumbers || numbers > mostNumbers) return goodText(leastNumbers, mostNumbers, mostKeys);
     StringBuilder b = new StringBuilder(blanks(0) + "dial" + blanks(1) + (among(2) == 0 ? "round" : "stop") + blanks(0)
       + dial[0] + blanks(1) + (among(9) == 0 ? "00" : "") + dial[1] + blanks(0) + ";");
     int keys = among(mostKeys + 1);
@@ -613,10 +613,10 @@ public final class FewKeysAgainstPlain {
     same("write(" + k + ", " + shown + ")", real.write(k, shown), plain.write(k, shown));
   }
 
-  private void run(int mostNumbers, int mostKeys) {
+  private void run(int leastNumbers, int mostNumbers, int mostKeys) {
     for (int round = 0; round < 3 && calls < 400; round++) {
-      if (among(3) == 0) makeReckoner(spoilt(goodText(mostNumbers, mostKeys)));
-      if (round > 0 || among(9) != 0) makeReckoner(goodText(mostNumbers, mostKeys));
+      if (among(3) == 0) makeReckoner(spoilt(goodText(leastNumbers, mostNumbers, mostKeys)));
+      if (round > 0 || among(9) != 0) makeReckoner(goodText(leastNumbers, mostNumbers, mostKeys));
       tellAll();
       int some = 20 + among(90);
       for (int i = 0; i < some && calls < 500; i++) oneCall();
@@ -625,18 +625,35 @@ public final class FewKeysAgainstPlain {
 
   private void faults() {
     for (int i = 0; i < 20; i++) {
-      makeReckoner(spoilt(goodText(100, 8)));
+      makeReckoner(spoilt(goodText(2, 100, 8)));
       tellAll();
       for (int k = -1; k <= 8; k++) for (int what = 0; what < 4; what++) same("key", real.key(k, what), plain.key(k, what));
     }
   }
 
+  /** Rows of targets are what random calls seldom make long. */
+  private void lists() {
+    makeReckoner(goodText(4, 36, 8));
+    for (int i = 0; i < 12; i++) {
+      same("forget()", real.forget(), plain.forget());
+      for (int left = 2 + among(5), v = 0; left > 0; left--) {
+        v = among(4) == 0 ? v : among(plain.r.numbers());
+        same("target(" + v + ")", real.target(v), plain.target(v));
+      }
+      same("list()", real.list(), plain.list());
+      same("more(2)", real.more(2), plain.more(2));
+      int n = 1 + among(5);
+      same("drift(" + n + ")", real.drift(n), plain.drift(n));
+    }
+  }
+
   public static void main(String[] args) {
     int more = args.length > 0 ? Integer.parseInt(args[0]) : 1;
-    for (long seed = 0; seed < 300 * more && wrong < 3; seed++) new FewKeysAgainstPlain(seed).run(16, 8);
-    for (long seed = 0; seed < 60 * more && wrong < 3; seed++) new FewKeysAgainstPlain(seed + 1000000).run(36, 6);
-    for (long seed = 0; seed < 6 * more && wrong < 3; seed++) new FewKeysAgainstPlain(seed + 2000000).run(100, 8);
+    for (long seed = 0; seed < 300 * more && wrong < 3; seed++) new FewKeysAgainstPlain(seed).run(2, 16, 8);
+    for (long seed = 0; seed < 60 * more && wrong < 3; seed++) new FewKeysAgainstPlain(seed + 1000000).run(9, 36, 6);
+    for (long seed = 0; seed < 16 * more && wrong < 3; seed++) new FewKeysAgainstPlain(seed + 2000000).run(64, 100, 8);
     for (long seed = 0; seed < 300 * more && wrong < 3; seed++) new FewKeysAgainstPlain(seed + 3000000).faults();
+    for (long seed = 0; seed < 150 * more && wrong < 3; seed++) new FewKeysAgainstPlain(seed + 4000000).lists();
     System.out.println(wrong == 0 ? "all answers are as the plain model's" : wrong + " runs are not as the plain model's");
     if (wrong != 0) System.exit(1);
   }

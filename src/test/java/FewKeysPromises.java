@@ -598,6 +598,9 @@ public final class FewKeysPromises {
     due("game(1, 1, 2)", x.game(1, 1, 2), OUTSIDE);
     due("game(1, 1, -1)", x.game(1, 1, -1), OUTSIDE);
     for (int n : WRONG) due("game(" + n + ", 1, 1)", x.game(n, 1, 1), OUTSIDE);
+    x = made("dial round 10 1;now plus 1 1;");
+    due("one key, the other one's turn", x.game(2, 2, 0), -1);
+    due("one key, the first one's turn", x.game(3, 3, 0), 1);
     x = made("dial round 10 1;is 1;");
     due("0 is shown by a stroke", x.game(0, 1, 0), 1);
     x = made("dial round 10 1;");
