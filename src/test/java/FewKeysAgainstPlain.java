@@ -632,9 +632,9 @@ public final class FewKeysAgainstPlain {
   }
 
   /** Rows of targets are what random calls seldom make long. */
-  private void lists() {
-    makeReckoner(goodText(4, 36, 8));
-    for (int i = 0; i < 12; i++) {
+  private void lists(int leastNumbers, int mostNumbers, int many) {
+    makeReckoner(goodText(leastNumbers, mostNumbers, 8));
+    for (int i = 0; i < many; i++) {
       same("forget()", real.forget(), plain.forget());
       for (int left = 2 + among(5), v = 0; left > 0; left--) {
         v = among(4) == 0 ? v : among(plain.r.numbers());
@@ -653,7 +653,8 @@ public final class FewKeysAgainstPlain {
     for (long seed = 0; seed < 60 * more && wrong < 3; seed++) new FewKeysAgainstPlain(seed + 1000000).run(9, 36, 6);
     for (long seed = 0; seed < 16 * more && wrong < 3; seed++) new FewKeysAgainstPlain(seed + 2000000).run(64, 100, 8);
     for (long seed = 0; seed < 300 * more && wrong < 3; seed++) new FewKeysAgainstPlain(seed + 3000000).faults();
-    for (long seed = 0; seed < 150 * more && wrong < 3; seed++) new FewKeysAgainstPlain(seed + 4000000).lists();
+    for (long seed = 0; seed < 150 * more && wrong < 3; seed++) new FewKeysAgainstPlain(seed + 4000000).lists(4, 36, 12);
+    for (long seed = 0; seed < 40 * more && wrong < 3; seed++) new FewKeysAgainstPlain(seed + 5000000).lists(64, 100, 2);
     System.out.println(wrong == 0 ? "all answers are as the plain model's" : wrong + " runs are not as the plain model's");
     if (wrong != 0) System.exit(1);
   }

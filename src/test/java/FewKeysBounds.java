@@ -279,6 +279,80 @@ public final class FewKeysBounds {
     refused("farthest(1)", x -> x.farthest(1), 1);
   }
 
+  /** Of a dial that stops at 9, with one key that is now plus 1, and 9 for a target. */
+  private static void asksFrom(FewKeys x, int shown) {
+    due("fewest(9) from " + shown, x.fewest(9), 9 - shown);
+    due("way(9, 0) from " + shown, x.way(9, 0), 0);
+    due("way(9, " + (9 - shown) + ") from " + shown, x.way(9, 9 - shown), NONE);
+    due("least(9) from " + shown, x.least(9), 5 * (9 - shown));
+    due("never(-1) from " + shown, x.never(NONE), shown);
+    due("farthest(1) from " + shown, x.farthest(1), 9 - shown);
+    due("list() from " + shown, x.list(), 9 - shown);
+    due("more(2) from " + shown, x.more(2), 1);
+    due("more(1) from " + shown, x.more(1), shown == 8 ? 0 : 9);
+    due("quick(0, 9) from " + shown, x.quick(0, 9), shown);
+    due("struck(1, " + (shown + 1) + ", 0)", x.struck(1, shown + 1, 0), 1);
+    due("game(" + (shown + 1) + ", 1, 0)", x.game(shown + 1, 1, 0), 1);
+  }
+
+  private static void fromTheStateThatIs() {
+    String text = "dial stop 10 1;now plus 1 5;";
+
+    sentence("Terms 3", "from the STATE that is: behind strike, drift");
+    FewKeys x = made(text);
+    x.target(9);
+    asksFrom(x, 0);
+    x.strike(0);
+    asksFrom(x, 1);
+    x.drift(7);
+    asksFrom(x, 8);
+
+    sentence("Terms 3", "from the STATE that is: behind begin, goBack");
+    x = made(text, 0, 0, 0);
+    x.target(9);
+    x.keep(1);
+    x.strike(0);
+    asksFrom(x, 4);
+    x.goBack(1);
+    asksFrom(x, 3);
+    x.begin();
+    asksFrom(x, 0);
+    x.goBack(1);
+    asksFrom(x, 3);
+
+    sentence("Terms 3", "from the STATE that is: behind reckoner");
+    x = made(text, 0, 0);
+    x.target(9);
+    asksFrom(x, 2);
+    feed(x, text);
+    x.reckoner();
+    x.target(9);
+    asksFrom(x, 0);
+    feed(x, "dial stop 10 1;now plus 3 5;");
+    x.reckoner();
+    due("fewest(9), by steps of 3", x.fewest(9), 3);
+    due("least(9)", x.least(9), 15);
+    due("never(-1)", x.never(NONE), 6);
+    due("more(2) of no TARGETS", x.more(2), 0);
+
+    sentence("Terms 3", "FEWEST of all TARGETS: behind target, forget, goBack");
+    x = made(text);
+    due("more(2) of none", x.more(2), 0);
+    x.target(9);
+    due("more(2) of 9", x.more(2), 1);
+    x.keep(0);
+    x.target(1);
+    due("more(2) of 9, 1", x.more(2), 2);
+    x.target(2);
+    due("more(2) of 9, 1, 2", x.more(2), 4);
+    x.goBack(0);
+    due("more(2) of 9 again", x.more(2), 1);
+    x.forget();
+    due("more(2) of none again", x.more(2), 0);
+    due("fewest(9) with its own KEYS alone", x.fewest(9), 9);
+    due("way(9, 8) with its own KEYS alone", x.way(9, 8), 0);
+  }
+
   // ---- 1 THE RECKONER
 
   private static void dials() {
@@ -519,6 +593,11 @@ public final class FewKeysBounds {
     bad(1, "dial stop 2 1;|iss 1;");
     bad(1, "dial stop 2 1;|i");
     bad(1, "dial stop 2 1;|stop 1;");
+    bad(1, "|xial round 2 1;");
+    bad(1, "|diax round 2 1;");
+    bad(1, "dial |xound 2 1;");
+    bad(1, "dial stop 2 1;|xs 1;");
+    bad(1, "dial stop 2 1;|ix 1;");
 
     sentence("Terms 1", "2 a NUMBER of four figures or more, or out of its bounds");
     bad(2, "dial stop |0002 1;");
@@ -548,11 +627,47 @@ public final class FewKeysBounds {
 
     sentence("Terms 1", "An empty text: no DIAL (M 0), no KEYS");
     good("", 0);
+    good(" ", 0);
+    good(" ".repeat(400), 0);
     FewKeys x = made("dial stop 2 1;is 1;");
     due("reckoner() of none", x.reckoner(), 0);
     due("told(0)", x.told(0), NONE);
     for (int what = 1; what <= 4; what++) due("told(" + what + ")", x.told(what), 0);
-    due("strike(0)", x.strike(0), UNKNOWN);
+    hasNoDial(x);
+    x = filled();
+    all(x);
+    x.reckoner();
+    x.reckoner();
+    hasNoDial(x);
+  }
+
+  private static void hasNoDial(FewKeys x) {
+    due("key(0, 0) without a dial", x.key(0, 0), UNKNOWN);
+    due("strike(0) without a dial", x.strike(0), UNKNOWN);
+    due("begin() without a dial", x.begin(), 0);
+    due("fewest(0) without a dial", x.fewest(0), OUTSIDE);
+    due("way(0, 0) without a dial", x.way(0, 0), OUTSIDE);
+    due("least(0) without a dial", x.least(0), OUTSIDE);
+    due("never(-1) without a dial", x.never(NONE), 0);
+    due("never(0) without a dial", x.never(0), NONE);
+    due("farthest(0) without a dial", x.farthest(0), NOT);
+    due("target(0) without a dial", x.target(0), OUTSIDE);
+    due("targetAt(0) without a dial", x.targetAt(0), UNKNOWN);
+    due("forget() without a dial", x.forget(), 0);
+    due("more(0) without a dial", x.more(0), NOT);
+    due("list() without a dial", x.list(), 0);
+    due("quick(0, 0) without a dial", x.quick(0, 0), NONE);
+    due("struck(0, 0, 0) without a dial", x.struck(0, 0, 0), OUTSIDE);
+    due("lost(0) without a dial", x.lost(0), OUTSIDE);
+    due("lost(1) without a dial", x.lost(1), UNKNOWN);
+    due("game(0, 0, 0) without a dial", x.game(0, 0, 0), OUTSIDE);
+    due("write(0, 0) without a dial", x.write(0, 0), UNKNOWN);
+    due("tear() without a dial", x.tear(), 0);
+    due("judge() without a dial", x.judge(), NONE);
+    due("drift(1) without a dial", x.drift(1), NOT);
+    due("keep(0) without a dial", x.keep(0), 1);
+    due("goBack(0) without a dial", x.goBack(0), 1);
+    due("goBack(1) without a dial", x.goBack(1), NOT);
   }
 
   // ---- 2 STATE
@@ -698,11 +813,7 @@ public final class FewKeysBounds {
     FewKeys x = new FewKeys();
     for (int what = 0; what <= 12; what++) due("told(" + what + ")", x.told(what), what == 0 ? NONE : 0);
     due("fault()", x.fault(), NONE);
-    due("key(0, 0)", x.key(0, 0), UNKNOWN);
-    due("fewest(0)", x.fewest(0), OUTSIDE);
-    due("begin()", x.begin(), 0);
-    due("tear()", x.tear(), 0);
-    due("forget()", x.forget(), 0);
+    hasNoDial(x);
 
     sentence("Promise 2", "Up to eight bytes (n 1 .. 8)");
     x = new FewKeys();
@@ -941,6 +1052,9 @@ public final class FewKeysBounds {
     due("least(0): no way", x.least(0), NONE);
     x = made("dial stop 10 2;now plus 1 99;");
     due("least(99): the dearest way", x.least(99), 99 * 99);
+    x = made("dial round 10 2;figure 2 1;figure 4 1;plus 1;less 1;times 1;is 1;clear 1;now plus 1 99;");
+    due("least(1): behind all STATES of even numbers", x.least(1), 99);
+    due("least(98): 0 less 2, is", x.least(98), 3);
 
     sentence("Promise 11", "least: OUTSIDE");
     for (int v : new int[] {-1, 100, LEAST_INT, MOST_INT}) due("least(" + v + ")", x.least(v), OUTSIDE);
@@ -972,6 +1086,11 @@ public final class FewKeysBounds {
     x.strike(1);
     due("farthest(0): 2 stays for good", x.farthest(0), 2);
     due("farthest(1): nothing else ever is", x.farthest(1), 0);
+    x = made("dial stop 10 1;figure 1 1;");
+    due("farthest(0): 0 is SHOWN, 1 the only other", x.farthest(0), 1);
+    x.strike(0);
+    due("farthest(0): 1 is SHOWN, 11 is too many", x.farthest(0), 1);
+    due("farthest(1)", x.farthest(1), 0);
     x = made("dial stop 10 2;now plus 1 1;");
     due("farthest(0): the last", x.farthest(0), 99);
     due("farthest(1): the last", x.farthest(1), 99);
@@ -1022,7 +1141,6 @@ public final class FewKeysBounds {
     sentence("Promise 18", "LIST; NONE: no TARGETS at all");
     due("list() of none", made("dial stop 10 2;is 1;").list(), 0);
     due("list() without keys", made("dial stop 10 2;").list(), 0);
-    due("list() without a dial", new FewKeys().list(), 0);
 
     sentence("Terms 3", "LIST: all TARGETS are SHOWN one behind the other in order");
     x = made("dial round 10 1;now plus 1 1;");
@@ -1237,6 +1355,9 @@ public final class FewKeysBounds {
     x = made("dial round 2 1;now plus 1 1;is 1;figure 1 1;clear 1;");
     due("lost(7), x x: 1 0, 0 0, 1 1; two numbers tell three keys by two readings", x.lost(7), 2);
     due("lost(15), x, figure 1, x: 1 1 0, 0 1 1, 1 1 1, 0 1 0", x.lost(15), 3);
+
+    x = made("dial stop 10 2;plus 1;now plus 98 1;is 1;");
+    due("lost(7), now, x, is: 98 98 99, 98 99 99, 98 98 98; the highest numbers", x.lost(7), 3);
 
     sentence("Terms 3", "LOST: it is known as which one it does, whichever it is");
     x = made("dial stop 10 1;figure 1 1;figure 2 1;figure 1 7;is 1;");
@@ -1479,6 +1600,7 @@ public final class FewKeysBounds {
   public static void main(String[] args) {
     terms();
     refusals();
+    fromTheStateThatIs();
     dials();
     keysInText();
     signs();
