@@ -976,6 +976,7 @@ public final class FewKeysBounds {
     }
 
     sentence("Promise 6", "key: UNKNOWN, OUTSIDE");
+    x = made("dial round 10 2;is 1;is 1;is 1;is 1;is 1;is 1;is 1;is 1;");
     for (int k : new int[] {-1, 8, 9, LEAST_INT, MOST_INT}) due("key(" + k + ", 0)", x.key(k, 0), UNKNOWN);
     for (int what : new int[] {-1, 4, LEAST_INT, MOST_INT}) due("key(7, " + what + ")", x.key(7, what), OUTSIDE);
     x = made("dial round 10 2;is 1;");
@@ -1016,6 +1017,7 @@ public final class FewKeysBounds {
     due("fewest(99): the longest way", x.fewest(99), 99);
 
     sentence("Promise 9", "fewest: OUTSIDE");
+    x = made("dial stop 10 2;now plus 1 1;");
     for (int v : new int[] {-1, 100, LEAST_INT, MOST_INT}) due("fewest(" + v + ")", x.fewest(v), OUTSIDE);
 
     sentence("Terms 3", "WAY: of all such rows the first (stroke by stroke the lesser KEY)");
@@ -1025,6 +1027,7 @@ public final class FewKeysBounds {
     due("way(1, 0): the lesser of like ones", x.way(1, 0), 1);
 
     sentence("Promise 10", "NONE: not so many, no way");
+    x = made("dial round 10 1;now plus 3 1;now plus 1 9;now plus 2 1;now plus 1 1;");
     due("way(4, 2)", x.way(4, 2), NONE);
     due("way(4, -1)", x.way(4, -1), NONE);
     due("way(4, 2147483647)", x.way(4, MOST_INT), NONE);
@@ -1038,6 +1041,7 @@ public final class FewKeysBounds {
     due("way(0, 1): no way", x.way(0, 1), NONE);
 
     sentence("Promise 10", "way: OUTSIDE (v)");
+    x = made("dial stop 10 2;now plus 1 1;");
     for (int v : new int[] {-1, 100, LEAST_INT, MOST_INT}) due("way(" + v + ", 0)", x.way(v, 0), OUTSIDE);
     due("way(100, -1)", x.way(100, -1), OUTSIDE);
 
@@ -1057,6 +1061,7 @@ public final class FewKeysBounds {
     due("least(98): 0 less 2, is", x.least(98), 3);
 
     sentence("Promise 11", "least: OUTSIDE");
+    x = made("dial stop 10 2;now plus 1 1;");
     for (int v : new int[] {-1, 100, LEAST_INT, MOST_INT}) due("least(" + v + ")", x.least(v), OUTSIDE);
 
     sentence("Promise 12", "NEVER: i = NONE how many, else the i-th; NONE: not so many");
@@ -1099,6 +1104,7 @@ public final class FewKeysBounds {
     due("farthest(1) without keys", x.farthest(1), 0);
 
     sentence("Promise 13", "farthest: OUTSIDE, NOT: no DIAL");
+    x = made("dial stop 10 2;now plus 1 1;");
     for (int what : new int[] {-1, 2, LEAST_INT, MOST_INT}) due("farthest(" + what + ")", x.farthest(what), OUTSIDE);
     x.reckoner();
     due("farthest(0)", x.farthest(0), NOT);
@@ -1119,6 +1125,8 @@ public final class FewKeysBounds {
     due("told(11)", x.told(11), 6);
 
     sentence("Promise 15", "TARGET i; UNKNOWN");
+    x = made("dial stop 10 2;");
+    targets(x, six);
     for (int i = 0; i < 6; i++) due("targetAt(" + i + ")", x.targetAt(i), six[i]);
     for (int i : new int[] {-1, 6, LEAST_INT, MOST_INT}) due("targetAt(" + i + ")", x.targetAt(i), UNKNOWN);
     x = made("dial stop 10 2;");
@@ -1154,6 +1162,7 @@ public final class FewKeysBounds {
     due("0 is SHOWN", x.list(), 1);
 
     sentence("Terms 3", "LIST: (like ones side by side at once)");
+    x = made("dial round 10 1;now plus 1 1;");
     targets(x, 2, 2, 2);
     due("2 2 2", x.list(), 2);
     targets(x, 2, 2, 3, 3, 2, 2);
@@ -1249,6 +1258,7 @@ public final class FewKeysBounds {
     more(x, 0, 0, 0);
 
     sentence("Promise 17", "more: OUTSIDE, NOT: no DIAL");
+    x = made("dial stop 10 2;");
     for (int what : new int[] {-1, 3, LEAST_INT, MOST_INT}) due("more(" + what + ")", x.more(what), OUTSIDE);
     x.reckoner();
     for (int what = 0; what <= 2; what++) due("more(" + what + ") without", x.more(what), NOT);
@@ -1331,6 +1341,7 @@ public final class FewKeysBounds {
     due("struck(1, 0, 1) without keys", made("dial stop 2 1;").struck(1, 0, 1), 0);
 
     sentence("Promise 20", "struck: OUTSIDE");
+    x = made("dial stop 10 1;now plus 1 1;is 1;");
     for (int v : new int[] {-1, 10, LEAST_INT, MOST_INT}) due("struck(1, " + v + ", 0)", x.struck(1, v, 0), OUTSIDE);
     for (int what : new int[] {-1, 2, LEAST_INT, MOST_INT}) due("struck(1, 0, " + what + ")", x.struck(1, 0, what), OUTSIDE);
     due("struck(0, 0, 0) without a dial", new FewKeys().struck(0, 0, 0), OUTSIDE);
@@ -1393,6 +1404,7 @@ public final class FewKeysBounds {
     for (int n : new int[] {-1, 7, LEAST_INT, MOST_INT}) due("game(1, " + n + ", 0)", x.game(1, n, 0), OUTSIDE);
 
     sentence("Terms 3", "GAME: (by a STROKE; what it shows now does not count)");
+    x = made("dial stop 10 1;now plus 1 1;");
     due("game(0, 6, 0)", x.game(0, 6, 0), 0);
     x = made("dial round 2 1;now plus 1 1;");
     due("game(0, 1, 0): it shows 1 then", x.game(0, 1, 0), 0);
@@ -1407,6 +1419,7 @@ public final class FewKeysBounds {
     due("game(9, 5, 0): five strokes are too few for the other one", x.game(9, 5, 0), 0);
 
     sentence("Terms 3", "GAME: the KEY with which the first one has what it can have: the least");
+    x = made("dial round 10 2;now plus 1 1;now plus 2 1;");
     int[] key = {0, 0, 1, 0, 0, 1, 0, 0, 1, 0, 0};
     for (int v = 1; v <= 8; v++) due("game(" + v + ", 6, 1)", x.game(v, 6, 1), key[v]);
     due("game(3, 2, 1): all lose", x.game(3, 2, 1), 0);
@@ -1417,6 +1430,7 @@ public final class FewKeysBounds {
     due("game(7, 2, 0)", x.game(7, 2, 0), 0);
 
     sentence("Promise 22", "what = 0 who (0 without STROKES, KEYS), 1 the KEY: NONE without STROKES, KEYS");
+    x = made("dial round 10 2;now plus 2 1;now plus 5 1;");
     due("game(5, 0, 0) without strokes", x.game(5, 0, 0), 0);
     due("game(5, 0, 1) without strokes", x.game(5, 0, 1), NONE);
     due("game(0, 0, 1) without strokes", x.game(0, 0, 1), NONE);
@@ -1426,6 +1440,7 @@ public final class FewKeysBounds {
     due("game(99, 0, 1) without both", x.game(99, 0, 1), NONE);
 
     sentence("Promise 22", "game: OUTSIDE");
+    x = made("dial round 10 2;now plus 2 1;");
     for (int v : new int[] {-1, 100, LEAST_INT, MOST_INT}) due("game(" + v + ", 1, 0)", x.game(v, 1, 0), OUTSIDE);
     for (int what : new int[] {-1, 2, LEAST_INT, MOST_INT}) due("game(0, 1, " + what + ")", x.game(0, 1, what), OUTSIDE);
     due("game(0, 0, 0) without a dial", new FewKeys().game(0, 0, 0), OUTSIDE);
@@ -1456,6 +1471,8 @@ public final class FewKeysBounds {
     due("judge(): the fortieth", x.judge(), 39);
 
     sentence("Promise 24", "THE BOOK is empty: how many entries it had");
+    x = made("dial stop 10 1;now plus 1 1;is 1;");
+    for (int i = 1; i <= 40; i++) x.write(0, 3);
     due("tear() of forty", x.tear(), 40);
     due("told(12)", x.told(12), 0);
     due("judge()", x.judge(), NONE);
