@@ -647,6 +647,26 @@ public final class FewKeysAgainstPlain {
     }
   }
 
+  // Here the quickest STATE that shows one TARGET is not the best to go on from to the next: hundreds must be kept.
+  private static final String[] LATE_STATES = {
+    "dial round 2 6;less 1;now less 13 1;plus 1;clear 1;figure 0 1;", "13 29 57 0 7",
+    "dial stop 3 4;now plus 80 1;times 1;now less 13 1;is 1;figure 1 1;is 1;times 1;", "11 54 74 37 61 30",
+    "dial round 9 2;figure 6 1;now plus 55 1;plus 1;stuck 6 3 1;stuck 0 5 1;", "49 6 49 8",
+    "dial stop 7 2;now times 14 1;plus 1;times 1;times 1;now less 18 1;figure 3 1;now less 35 1;", "2 0 23 6",
+    "dial round 2 6;times 1;now plus 0 1;stuck 1 1 1;now plus 38 1;", "28 49 29 41 6 6",
+    "dial round 2 6;now plus 47 1;now plus 55 1;less 1;figure 0 1;now less 45 1;times 1;plus 1;", "30 0 18 8",
+    "dial stop 10 2;less 1;stuck 6 6 1;now less 89 1;now plus 27 1;times 1;figure 3 1;now plus 93 1;now less 33 1;", "28 33 16 66 74",
+    "dial stop 3 4;now less 20 1;now plus 51 1;figure 0 1;now less 31 1;less 1;plus 1;", "72 65 0 37 4"};
+
+  private void listOf(String text, String targets) {
+    makeReckoner(text);
+    for (String number : targets.split(" ")) {
+      int v = Integer.parseInt(number);
+      same("target(" + v + ")", real.target(v), plain.target(v));
+    }
+    same("list()", real.list(), plain.list());
+  }
+
   public static void main(String[] args) {
     int more = args.length > 0 ? Integer.parseInt(args[0]) : 1;
     for (long seed = 0; seed < 300 * more && wrong < 3; seed++) new FewKeysAgainstPlain(seed).run(2, 16, 8);
@@ -655,6 +675,7 @@ public final class FewKeysAgainstPlain {
     for (long seed = 0; seed < 300 * more && wrong < 3; seed++) new FewKeysAgainstPlain(seed + 3000000).faults();
     for (long seed = 0; seed < 150 * more && wrong < 3; seed++) new FewKeysAgainstPlain(seed + 4000000).lists(4, 36, 12);
     for (long seed = 0; seed < 40 * more && wrong < 3; seed++) new FewKeysAgainstPlain(seed + 5000000).lists(64, 100, 2);
+    for (int i = 0; i < LATE_STATES.length; i += 2) new FewKeysAgainstPlain(i).listOf(LATE_STATES[i], LATE_STATES[i + 1]);
     System.out.println(wrong == 0 ? "all answers are as the plain model's" : wrong + " runs are not as the plain model's");
     if (wrong != 0) System.exit(1);
   }

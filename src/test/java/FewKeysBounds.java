@@ -1059,6 +1059,8 @@ public final class FewKeysBounds {
     x = made("dial round 10 2;figure 2 1;figure 4 1;plus 1;less 1;times 1;is 1;clear 1;now plus 1 99;");
     due("least(1): behind all STATES of even numbers", x.least(1), 99);
     due("least(98): 0 less 2, is", x.least(98), 3);
+    x = made("dial round 10 2;figure 0 1;figure 2 1;figure 4 1;plus 1;less 1;times 1;now plus 2 1;now plus 1 99;");
+    due("least(1): behind some 8,900 STATES, seven STROKES of each", x.least(1), 99);
 
     sentence("Promise 11", "least: OUTSIDE");
     x = made("dial stop 10 2;now plus 1 1;");
