@@ -656,7 +656,10 @@ public final class FewKeysAgainstPlain {
     "dial round 2 6;times 1;now plus 0 1;stuck 1 1 1;now plus 38 1;", "28 49 29 41 6 6",
     "dial round 2 6;now plus 47 1;now plus 55 1;less 1;figure 0 1;now less 45 1;times 1;plus 1;", "30 0 18 8",
     "dial stop 10 2;less 1;stuck 6 6 1;now less 89 1;now plus 27 1;times 1;figure 3 1;now plus 93 1;now less 33 1;", "28 33 16 66 74",
-    "dial stop 3 4;now less 20 1;now plus 51 1;figure 0 1;now less 31 1;less 1;plus 1;", "72 65 0 37 4"};
+    "dial stop 3 4;now less 20 1;now plus 51 1;figure 0 1;now less 31 1;less 1;plus 1;", "72 65 0 37 4",
+    "dial stop 9 2;times 1;stuck 0 0 1;now plus 11 1;plus 1;less 1;times 1;plus 1;now less 63 1;", "63 0 21 29",
+    "dial stop 10 2;now less 87 1;plus 1;now less 6 1;now plus 95 1;now times 15 1;now times 24 1;times 1;stuck 8 7 1;", "91 87 45 80 74 52",
+    "dial stop 10 2;figure 0 1;now less 84 1;figure 7 1;times 1;plus 1;less 1;is 1;stuck 9 8 1;", "75 38 0 53 39 71"};
 
   private void listOf(String text, String targets) {
     makeReckoner(text);
